@@ -1,0 +1,95 @@
+/** Promise 27. */
+public final class UndoTest {
+    private static final Due DUE = new Due("UndoTest");
+
+    public static void main(String[] args) {
+        none();
+        allOfIt();
+        eightAtMost();
+        whatIsKept();
+        DUE.end();
+    }
+
+    private static void none() {
+        RegionRooms x = new RegionRooms();
+        DUE.is("undo() of a new one", x.undo(), -1);
+        DUE.is("load() that is false", x.load(), false);
+        DUE.is("undo() then", x.undo(), -1);
+        DUE.is("program()", Due.program(x, "fun main n; p is pair n n; h is left p;"), 3);
+        DUE.is("undo() behind program()", x.undo(), -1);
+        DUE.is("steps() of an IDLE one", x.steps(3), 0);
+        DUE.is("steps() that are NONE", x.steps(0), -1);
+        DUE.is("run()", Due.run(x, 1), 2);
+        DUE.is("undo() then", x.undo(), -1);
+    }
+
+    private static void allOfIt() {
+        RegionRooms x = DUE.with("fun main n; p is pair n n; h is left p; r is sum h h;");
+        DUE.is("load()", Due.load(x, 4), true);
+        DUE.is("steps(1)", x.steps(1), 1);
+        DUE.is("steps(9)", x.steps(9), 2);
+        DUE.is("ENDED", x.now(0), 2);
+        DUE.is("steps() behind the end", x.steps(9), 0);
+        DUE.is("load() that is false", Due.load(x), false);
+        DUE.is("undo()", x.undo(), 2);
+        DUE.is("it RUNS", x.now(0), 1);
+        DUE.is("STEPS", x.now(8), 1);
+        DUE.is("CELLS", x.now(5), 1);
+        DUE.is("ROOMS", x.now(6), 1);
+        DUE.is("kind", x.kind(0, 1), 2);
+        DUE.is("in", x.in(0, 1), 4);
+        DUE.is("gave", x.gave(), 0);
+        DUE.is("undo()", x.undo(), 1);
+        DUE.is("STEPS", x.now(8), 0);
+        DUE.is("CELLS", x.now(5), 0);
+        DUE.is("MOST", x.now(7), 0);
+        DUE.is("another way", x.steps(2), 2);
+        DUE.is("undo()", x.undo(), 1);
+        DUE.is("undo()", x.undo(), 0);
+        DUE.is("IDLE", x.now(0), 0);
+        DUE.is("FRAMES", x.now(2), 0);
+        DUE.is("undo()", x.undo(), -1);
+        DUE.is("a load() over another", Due.load(x, 1), true);
+        DUE.is("and on", x.steps(3), 3);
+        DUE.is("and over it", Due.load(x, 2), true);
+        DUE.is("value", x.value(0, 0), 2);
+        DUE.is("undo()", x.undo(), 2);
+        DUE.is("ENDED as it had", x.now(0), 2);
+        DUE.is("what it gave", x.result(), 2);
+    }
+
+    private static void eightAtMost() {
+        RegionRooms x = DUE.with("fun f n; r is call f n; fun main n; r is call f n;");
+        DUE.is("load()", Due.load(x, 4), true);
+        for (int i = 1; i <= 20; i++) {
+            DUE.is("steps(1)", x.steps(1), 1);
+        }
+        for (int i = 7; i >= 0; i--) {
+            DUE.is("undo()", x.undo(), i);
+            DUE.is("STEPS", x.now(8), 12 + i);
+        }
+        DUE.is("undo()", x.undo(), -1);
+        DUE.is("STEPS", x.now(8), 12);
+        DUE.is("steps(5)", x.steps(5), 5);
+        DUE.is("undo()", x.undo(), 0);
+        DUE.is("STEPS", x.now(8), 12);
+    }
+
+    private static void whatIsKept() {
+        RegionRooms x = DUE.with("fun main n; r is left n;");
+        DUE.is("sentence()", Due.sentence(x, "live"), 1);
+        DUE.is("load()", Due.load(x, 4), true);
+        DUE.is("run()", Due.run(x, 4), 3);
+        DUE.is("steps(9)", x.steps(9), 1);
+        DUE.is("why", x.now(1), 1);
+        Due.feed(x, "abc");
+        DUE.is("undo()", x.undo(), 1);
+        DUE.is("why then", x.now(1), 0);
+        DUE.is("RUNS then", x.now(0), 1);
+        DUE.is("the tape stays", x.count(4), 3);
+        DUE.is("the SENTENCE stays", x.said(-1), 1);
+        DUE.is("undo()", x.undo(), 0);
+        DUE.is("it is said of the MACHINE as it is", x.said(-1), 0);
+        DUE.is("what run() told stays", x.ran(0), 1);
+    }
+}
