@@ -357,8 +357,8 @@ public final class RegionRooms {
         int worst = 0;
         for (int i = 0; i <= STEPS_MOST && other.state == RUNS; i++) {
             other.makeStep(own.program);
-            // Judging is dear, and DRAG is never above CELLS.
-            if (other.cells > worst) {
+            // Judging is dear: DRAG grows only where VALUES are lost, and is never above CELLS.
+            if (other.lost && other.cells > worst) {
                 worst = Math.max(worst, other.cells - judge.countReached(own.program, other));
             }
         }
@@ -726,7 +726,7 @@ public final class RegionRooms {
             if (token != TOKEN_NAME) {
                 return failsBy(FAULT_TOKEN);
             }
-            if (made.funs > 0 && varOf(word) != NONE) {
+            if (varOf(word) != NONE) {
                 return failsBy(FAULT_NAME);
             }
             if (made.funs == 0 || made.lines >= LINES_MOST) {
@@ -961,7 +961,6 @@ public final class RegionRooms {
         void clear() {
             funs = 0;
             lines = 0;
-            regions.size = 0;
         }
 
         void copyFrom(Program from) {
@@ -1225,7 +1224,7 @@ public final class RegionRooms {
         private void tellFinite(Program p) {
             finite = 0;
             for (int r = 0; r < size; r++) {
-                boolean outside = (outer[p.funs - 1] >> r & 1) != 0;
+                boolean outside = p.funs > 0 && (outer[p.funs - 1] >> r & 1) != 0;
                 boolean byOne = Integer.bitCount(filledBy[r]) == 1;
                 if (!outside && byOne && (filledBy[r] & ownedBy[r]) != 0) {
                     finite |= 1 << r;
@@ -1344,6 +1343,9 @@ public final class RegionRooms {
         }
 
         private void join(int a, int b, int depth) {
+            if (a == NONE || b == NONE) {
+                return;
+            }
             int kept = rootOf(a);
             int gone = rootOf(b);
             if (kept == gone || depth > DEPTH_MOST) {
@@ -1417,6 +1419,8 @@ public final class RegionRooms {
         int leftAhead = 0;
         int resultKind = NO_VALUE;
         int resultValue = 0;
+        /** Whether a VAR, or a FRAME with all of them, was lost in the latest STEP. */
+        boolean lost = false;
         final int[] frameFun = new int[FRAME_ROWS];
         final int[] frameLine = new int[FRAME_ROWS];
         final int[] varKind = new int[FRAME_ROWS * VARS_MOST];
@@ -1543,6 +1547,7 @@ public final class RegionRooms {
             if (state != RUNS || frames == 0) {
                 return;
             }
+            lost = false;
             int f = frameFun[frames - 1];
             int line = p.firstLine[f] + frameLine[frames - 1];
             makeRooms(p.regions.begins[line]);
@@ -1559,6 +1564,9 @@ public final class RegionRooms {
         }
 
         private void makeRooms(int regions) {
+            if (regions == 0) {
+                return;
+            }
             for (int r = 0; r < REGIONS_MOST; r++) {
                 if ((regions >> r & 1) != 0 && rooms < ROOMS_MOST) {
                     roomRegion[rooms] = r;
@@ -1631,6 +1639,7 @@ public final class RegionRooms {
             }
             if (p.leavesBy(f, line)) {
                 moveFrame(frames, frames - 1);
+                lost = true;
                 leftAhead++;
             } else {
                 frames++;
@@ -1732,6 +1741,7 @@ public final class RegionRooms {
                     return;
                 }
                 frames--;
+                lost = true;
             }
             state = ENDED;
             resultKind = kindOfIt;
@@ -1742,6 +1752,7 @@ public final class RegionRooms {
             if (regions == 0) {
                 return;
             }
+            lost = true;
             for (int r = 0; r < REGIONS_MOST; r++) {
                 if ((regions >> r & 1) != 0) {
                     freeRoom(latestRoom(r));

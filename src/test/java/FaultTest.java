@@ -44,6 +44,8 @@ public final class FaultTest {
         good("fun f a; b is a; fun g a; b is call f a;", 4);
         good("fun abcdefg abcdefg; hijklmn is abcdefg;", 2);
         good("fun f; a is 000;", 2);
+        good("fun f a aa aaa; b is aa; ba is pair b aaa;", 3);
+        good("fun a; z is 1; fun aa; z is call a; az is call aa;", 5);
     }
 
     private static void ends() {
@@ -75,6 +77,11 @@ public final class FaultTest {
         bad("fun f; a is 1;" + (char) 0, 1, 14);
         bad("fun f; a is 1;" + (char) 233, 1, 14);
         bad("fun f; a is 1; b is a,", 1, 21);
+        bad("fun f a b1; c is 1;", 1, 8);
+        bad("fun f a 1b; c is 1;", 1, 8);
+        bad("fun f n; a is pair n n1;", 1, 21);
+        bad("fun f n; a is pair n eightlet;", 1, 21);
+        bad("fun f; a is 1 2222;", 1, 14);
     }
 
     private static void order() {

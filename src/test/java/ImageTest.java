@@ -8,6 +8,7 @@ public final class ImageTest {
         emptyOne();
         twoPlaces();
         otherThingsStay();
+        cellsComeBack();
         DUE.end();
     }
 
@@ -89,6 +90,22 @@ public final class ImageTest {
         DUE.is("load()", Due.load(x, 4), true);
         DUE.is("restore(0)", x.restore(0), true);
         DUE.is("ENDED", x.now(0), 2);
+    }
+
+    private static void cellsComeBack() {
+        RegionRooms x = DUE.with("fun main n; p is pair n n; h is pair p n;");
+        DUE.is("load()", Due.load(x, 3), true);
+        DUE.is("steps(2)", x.steps(2), 2);
+        DUE.is("image(0)", x.image(0), true);
+        DUE.is("load()", Due.load(x, 7), true);
+        DUE.is("steps(1)", x.steps(1), 1);
+        DUE.is("its LEFT", x.in(0, 0), 7);
+        DUE.is("restore(0)", x.restore(0), true);
+        DUE.is("its LEFT as kept", x.in(0, 0), 3);
+        DUE.is("the other's LEFT", x.in(1, 0), 0);
+        DUE.is("the other's RIGHT", x.in(1, 1), 3);
+        DUE.is("kinds", 10 * x.cell(1, 1) + x.cell(1, 2), 21);
+        DUE.is("result()", x.result(), 1);
     }
 
     /** The tape, and what fault() and ran() tell, are no part of an image. */

@@ -8,6 +8,8 @@ public final class JudgeTest {
         throughSides();
         allFrames();
         fromTheResult();
+        leftSide();
+        isReachedAlone();
         DUE.end();
     }
 
@@ -52,6 +54,28 @@ public final class JudgeTest {
         DUE.is("steps(1)", x.steps(1), 1);
         told(x, "without its first", 2, 1, 1, 1, 0);
         DUE.is("w", x.result(), 1);
+    }
+
+    private static void leftSide() {
+        RegionRooms x = DUE.with("fun f i n l; o is 1; j is sum i o; p is pair l i; c is less j n; r is when c f j n p else p; "
+            + "fun main n; z is 0; e is 0; y is call f z n e; w is left y;");
+        DUE.is("load()", Due.load(x, 4), true);
+        DUE.is("steps(23)", x.steps(23), 23);
+        told(x, "a chain by LEFT sides", 4, 0, 1, 1, 1, 1);
+        DUE.is("steps(1)", x.steps(1), 1);
+        told(x, "without its first", 3, 1, 1, 1, 1, 0);
+    }
+
+    /** It is judged anew by each call, not by what another one left. */
+    private static void isReachedAlone() {
+        RegionRooms x = DUE.with("fun main n; p is pair n n; q is pair n n; r is pick n p q;");
+        DUE.is("load()", Due.load(x, 0), true);
+        DUE.is("steps(2)", x.steps(2), 2);
+        DUE.is("isReached(0)", x.isReached(0), 1);
+        DUE.is("isReached(1)", x.isReached(1), 1);
+        DUE.is("steps(1)", x.steps(1), 1);
+        DUE.is("isReached(0) behind the end", x.isReached(0), 0);
+        DUE.is("isReached(1) behind the end", x.isReached(1), 1);
     }
 
     private static void allFrames() {

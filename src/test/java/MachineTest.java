@@ -14,6 +14,9 @@ public final class MachineTest {
         leastFreeCell();
         latestRoomGetsTheCell();
         outerStays();
+        framesAreNew();
+        allFramesAtOnce();
+        firstVarIsFreed();
         stopOne();
         stopTwo();
         stopThree();
@@ -266,6 +269,44 @@ public final class MachineTest {
         now(x, "all is away", 1, 0, 1, 0, 0, 0, 2, 0, 0, 0, 0);
         DUE.is("gave() then", x.gave(), 0);
         DUE.noSuch("result() then", x::result);
+    }
+
+    /** A FRAME has no VALUES of one that was there ahead of it. */
+    private static void framesAreNew() {
+        RegionRooms x = DUE.with("fun f a; b is 1; c is sum a b; fun main n; p is call f n; q is call f p; r is q;");
+        DUE.is("load()", Due.load(x, 8), true);
+        DUE.is("steps(2)", x.steps(2), 2);
+        vars(x, 1, "of the first call", 1, 1, 0);
+        DUE.is("steps(2)", x.steps(2), 2);
+        vars(x, 1, "of the second call", 1, 0, 0);
+        DUE.is("its PARAMETER", x.value(1, 0), 9);
+        DUE.is("steps(9)", x.steps(9), 3);
+        DUE.is("result()", x.result(), 10);
+        DUE.is("load()", Due.load(x, 1), true);
+        vars(x, 0, "LOADED again", 1, 0, 0, 0);
+        DUE.is("FRAMES left ahead", x.now(10), 0);
+    }
+
+    /** c, e and w are the same, so that the SPAN of w ends with the last LINE, and no FRAME is LEFT. */
+    private static void allFramesAtOnce() {
+        RegionRooms x = DUE.with("fun f i n; o is 1; j is sum i o; c is less j n; w is pair o o; e is pick o c w; "
+            + "r is when e f j n else j;");
+        DUE.is("no FRAME is LEFT", x.fun(0, 5), 0);
+        DUE.is("load()", Due.load(x, 0, 12), true);
+        DUE.is("steps(71)", x.steps(71), 71);
+        now(x, "12 FRAMES", 1, 0, 12, 0, 5, 12, 12, 12, 71, 12, 0);
+        DUE.is("steps(1)", x.steps(1), 1);
+        now(x, "all are away", 2, 0, 0, -1, -1, 0, 0, 12, 72, 12, 0);
+        DUE.is("result()", x.result(), 12);
+    }
+
+    private static void firstVarIsFreed() {
+        RegionRooms x = DUE.with("fun main; a is 0; b is 1; c is pair b b; d is pick b a c; e is b; g is 2;");
+        DUE.is("load()", x.load(), true);
+        DUE.is("steps(3)", x.steps(3), 3);
+        vars(x, 0, "ahead", 1, 1, 2, 0, 0, 0);
+        DUE.is("steps(1)", x.steps(1), 1);
+        vars(x, 0, "a, a number, is freed with them", 0, 1, 0, 0, 0, 0);
     }
 
     private static void stops(String text, int why, int line, int number) {

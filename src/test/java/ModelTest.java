@@ -88,7 +88,7 @@ public final class ModelTest {
 
     private void all() {
         newProgram();
-        while (calls < CALLS_MOST - 60 && wrong == 0) {
+        while (calls < CALLS_MOST - 130 && wrong == 0) {
             act();
             if (chance(25)) {
                 lookAtAll();
@@ -191,6 +191,14 @@ public final class ModelTest {
         both("result", (a, b, c) -> real.result(), (a, b, c) -> model.result());
         for (int what = -1; what <= 5; what++) {
             both("count", (a, b, c) -> real.count(a), (a, b, c) -> model.count(a), what);
+        }
+        int some = random.nextInt(6);
+        for (int cell = some; cell < some + 3; cell++) {
+            for (int what = 0; what <= 2; what++) {
+                both("cell", (a, b, c) -> real.cell(a, b), (a, b, c) -> model.cell(a, b), cell, what);
+            }
+            both("in", (a, b, c) -> real.in(a, b), (a, b, c) -> model.in(a, b), cell, 0);
+            both("in", (a, b, c) -> real.in(a, b), (a, b, c) -> model.in(a, b), cell, 1);
         }
         int f = arg(5);
         for (int what = -1; what <= 6; what++) {

@@ -16,6 +16,8 @@ public final class RegionTest {
         bareSpan();
         calls();
         leaving();
+        mostRegions();
+        newProgramForgets();
         wrongOnes();
         DUE.end();
     }
@@ -212,6 +214,67 @@ public final class RegionTest {
         DUE.is("a SPAN that ends with it", y.fun(1, 5), 0);
         RegionRooms z = DUE.with("fun f n; o is pair n n; p is 1; fun main n; p is pair n n; r is when n f p else n;");
         DUE.is("a SPAN that ends with a 'when'", z.fun(1, 5), 0);
+    }
+
+    private static String name(int i) {
+        return String.valueOf((char) ('a' + i));
+    }
+
+    /** 24 LINES make 24 REGIONS at most, one within another or two chains that become one. */
+    private static void mostRegions() {
+        StringBuilder pairs = new StringBuilder("fun main a;");
+        StringBuilder sides = new StringBuilder("fun main a;");
+        for (int i = 1; i <= 24; i++) {
+            pairs.append(name(i)).append(" is pair ").append(name(i - 1)).append(' ').append(name(0)).append(';');
+            sides.append(name(i)).append(i % 2 == 0 ? " is left " : " is right ").append(name(i - 1)).append(';');
+        }
+        RegionRooms x = DUE.with(pairs.toString());
+        RegionRooms y = DUE.with(sides.toString());
+        DUE.is("REGIONS of 24 pairs", x.count(2), 24);
+        DUE.is("REGIONS of 24 sides", y.count(2), 24);
+        DUE.is("all are OUTER: pairs", x.fun(0, 3), 0xffffff);
+        DUE.is("all are OUTER: sides", y.fun(0, 3), 0xffffff);
+        for (int v = 0; v <= 24; v++) {
+            DUE.is("pairs: points(0, " + v + ")", x.points(0, v), v - 1);
+            DUE.is("sides: points(0, " + v + ")", y.points(0, v), v < 24 ? v : -1);
+        }
+        for (int r = 0; r < 24; r++) {
+            DUE.is("pairs: region(" + r + ", 0)", x.region(r, 0), r - 1);
+            DUE.is("pairs: region(" + r + ", 1)", x.region(r, 1), -1);
+            DUE.is("sides: region(" + r + ", 0)", y.region(r, 0), r % 2 == 1 && r < 23 ? r + 1 : -1);
+            DUE.is("sides: region(" + r + ", 1)", y.region(r, 1), r % 2 == 0 ? r + 1 : -1);
+        }
+        DUE.is("pairs: region(24, 0)", x.region(24, 0), -1);
+        StringBuilder chains = new StringBuilder("fun main n a xa;");
+        for (int i = 1; i <= 11; i++) {
+            chains.append(name(i)).append(" is left ").append(name(i - 1)).append(';');
+            chains.append('x').append(name(i)).append(" is left x").append(name(i - 1)).append(';');
+        }
+        RegionRooms w = DUE.with(chains + "y is pick n a xa; z is n;");
+        DUE.is("REGIONS of two chains that are one", w.count(2), 11);
+        for (int r = 0; r < 11; r++) {
+            DUE.is("chain: region(" + r + ", 0)", w.region(r, 0), r < 10 ? r + 1 : -1);
+        }
+        DUE.is("the first ones are the same", w.points(0, 1), w.points(0, 2));
+    }
+
+    private static void newProgramForgets() {
+        RegionRooms x = DUE.with("fun f n; a is pair n n; b is pair a n; c is 1; fun main n; p is pair n n; q is call f p;");
+        DUE.is("a second PROGRAM", Due.program(x, "fun main n; o is 1; l is left n; r is 2;"), 4);
+        points(x, 0, 0, -1, -1, -1);
+        region(x, 0, -1, -1, 0, 0, 0, 0, 0);
+        region(x, 1, -1, -1, -1, -1, -1, -1, -1);
+        fun(x, 0, 1, 3, 0, 1, 0, 0);
+        DUE.is("a third one", Due.program(x, "fun main; o is 1; p is pair o o; r is left p; s is 2;"), 5);
+        points(x, 0, -1, 0, -1, -1);
+        region(x, 0, -1, -1, 1, 1, 1, 0, 0);
+        span(x, 0, 0, 1, 2);
+        DUE.is("load()", x.load(), true);
+        for (int i = 0; i < 4; i++) {
+            DUE.is("ROOMS", x.now(6), i == 2 ? 1 : 0);
+            DUE.is("steps(1)", x.steps(1), 1);
+        }
+        DUE.is("ENDED", x.now(0), 2);
     }
 
     private static void wrongOnes() {

@@ -131,6 +131,10 @@ public final class SentenceTest {
     }
 
     private static void lengths() {
+        RegionRooms cut = DUE.with(PROGRAM);
+        Due.feed(cut, "finites");
+        DUE.is("end(6)", cut.end(6), true);
+        DUE.is("what was cut off is not read", cut.sentence(), 1);
         String blanks = " ".repeat(194);
         good("finite" + blanks, 1);
         bad("finite" + blanks + " ", 1, 200);

@@ -7,6 +7,7 @@ public final class UndoTest {
         allOfIt();
         eightAtMost();
         whatIsKept();
+        cellsComeBack();
         DUE.end();
     }
 
@@ -73,6 +74,31 @@ public final class UndoTest {
         DUE.is("steps(5)", x.steps(5), 5);
         DUE.is("undo()", x.undo(), 0);
         DUE.is("STEPS", x.now(8), 12);
+    }
+
+    /** The same CELL was laid again with other VALUES, in another ROOM. */
+    private static void cellsComeBack() {
+        RegionRooms x = DUE.with("fun main n; p is pair n n; h is left p; o is 1; q is pair o h; r is pair q q;");
+        DUE.is("load()", Due.load(x, 4), true);
+        DUE.is("steps(1)", x.steps(1), 1);
+        DUE.is("REGION of CELL 0", x.cell(0, 0), 0);
+        DUE.is("ROOMS", x.now(6), 3);
+        DUE.is("steps(3)", x.steps(3), 3);
+        DUE.is("CELL 0 is another one", x.cell(0, 0), 1);
+        DUE.is("its LEFT", x.in(0, 0), 1);
+        DUE.is("load()", Due.load(x, 9), true);
+        DUE.is("steps(1)", x.steps(1), 1);
+        DUE.is("its LEFT", x.in(0, 0), 9);
+        DUE.is("undo()", x.undo(), 4);
+        DUE.is("undo()", x.undo(), 3);
+        DUE.is("its LEFT as it was", x.in(0, 0), 1);
+        DUE.is("its RIGHT as it was", x.in(0, 1), 4);
+        DUE.is("undo()", x.undo(), 2);
+        DUE.is("its LEFT as it was at first", x.in(0, 0), 4);
+        DUE.is("its REGION as it was at first", x.cell(0, 0), 0);
+        DUE.is("ROOM 2 as it was", x.room(2), 0);
+        DUE.is("value(0, 0)", x.value(0, 0), 4);
+        DUE.is("kind(0, 1)", x.kind(0, 1), 2);
     }
 
     private static void whatIsKept() {
