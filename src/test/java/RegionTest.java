@@ -256,6 +256,13 @@ public final class RegionTest {
             DUE.is("chain: region(" + r + ", 0)", w.region(r, 0), r < 10 ? r + 1 : -1);
         }
         DUE.is("the first ones are the same", w.points(0, 1), w.points(0, 2));
+        RegionRooms v = DUE.with(chains.toString().replace("left", "right") + "y is pick n a xa; z is n;");
+        DUE.is("REGIONS of two chains of RIGHT sides", v.count(2), 11);
+        for (int i = 0; i < 30; i++) {
+            DUE.is("the same PROGRAM again", Due.program(x, pairs.toString()), 25);
+        }
+        DUE.is("its REGIONS", x.count(2), 24);
+        DUE.is("its last one", x.points(0, 24), 23);
     }
 
     private static void newProgramForgets() {

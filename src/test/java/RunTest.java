@@ -8,6 +8,8 @@ public final class RunTest {
         stopped();
         ownStays();
         worstDrag();
+        dragByWhatIsFreed();
+        dragByFramesLeft();
         latest();
         odds();
         draws();
@@ -85,6 +87,22 @@ public final class RunTest {
         }
         DUE.is("step by step", worst, 9);
         DUE.is("ENDED", x.now(0), 2);
+    }
+
+    /** o is freed with h; what it alone pointed to stays in the ROOM of c for one STEP more. */
+    private static void dragByWhatIsFreed() {
+        RegionRooms x = DUE.with("fun mk n c; i is pair n n; s is pick n i c; o is pair s n; "
+            + "fun main n; c is pair n n; b is call mk n c; h is right b; k is left c;");
+        DUE.is("run()", Due.run(x, 5), 2);
+        ran(x, "of 5: it gave i", 7, 3, 0, 3, 0, 1, 5, 1);
+        DUE.is("run()", Due.run(x, 0), 2);
+        ran(x, "of 0: it gave c", 7, 3, 0, 3, 0, 1, 0, 1);
+    }
+
+    private static void dragByFramesLeft() {
+        RegionRooms x = DUE.with("fun b l n; p is pair n n; r is call b p n; fun main n; r is call b n n;");
+        DUE.is("run()", Due.run(x, 1), 3);
+        ran(x, "the latest CELL alone is reached", 402, 200, 200, 200, 4, 0, 0, 199);
     }
 
     /** What run() told stays, whatever else comes. */

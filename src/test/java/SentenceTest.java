@@ -176,6 +176,10 @@ public final class SentenceTest {
         says(x, "not finite", 0, 2, 3);
         says(x, "cells=0", 0, 1, 2, 3);
         says(x, "rooms>0");
+        RegionRooms alone = DUE.with("fun main n; p is pair n n; q is left p; r is pair q q;");
+        says(alone, "outer", 1);
+        says(alone, "owned main", 0);
+        says(alone, "finite or outer", 0, 1);
     }
 
     /** 'and' holds its parts closer than 'or' does, 'not' closer than both. */

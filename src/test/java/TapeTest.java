@@ -20,8 +20,10 @@ public final class TapeTest {
         DUE.is("count(-1)", x.count(-1), -1);
         DUE.is("count(5)", x.count(5), -1);
         DUE.is("fault() ahead of any", x.fault(), 0);
-        DUE.is("now(0)", x.now(0), 0);
-        DUE.is("now(3)", x.now(3), -1);
+        for (int what = 0; what <= 11; what++) {
+            DUE.is("now(" + what + ")", x.now(what), what == 3 || what == 4 || what == 11 ? -1 : 0);
+        }
+        DUE.is("gave()", x.gave(), 0);
     }
 
     private static void feed() {

@@ -8,6 +8,7 @@ public final class UndoTest {
         eightAtMost();
         whatIsKept();
         cellsComeBack();
+        roomsComeBack();
         DUE.end();
     }
 
@@ -99,6 +100,25 @@ public final class UndoTest {
         DUE.is("ROOM 2 as it was", x.room(2), 0);
         DUE.is("value(0, 0)", x.value(0, 0), 4);
         DUE.is("kind(0, 1)", x.kind(0, 1), 2);
+    }
+
+    private static void roomsComeBack() {
+        RegionRooms x = DUE.with("fun main n; a is pair n n; b is pair n n; c is left a; d is left b; e is 1;");
+        DUE.is("load()", Due.load(x, 3), true);
+        DUE.is("steps(2)", x.steps(2), 2);
+        DUE.is("steps(1)", x.steps(1), 1);
+        DUE.is("ROOM 0 is that of b", x.room(0), 1);
+        DUE.is("undo()", x.undo(), 2);
+        DUE.is("ROOM 0 is that of a", x.room(0), 0);
+        DUE.is("ROOM 1 is that of b", x.room(1), 1);
+        DUE.is("CELL 1 is in the latter", x.cell(1, 0), 1);
+        DUE.is("and CELL 0 in the former", x.cell(0, 0), 0);
+        RegionRooms y = DUE.with("fun f n; r is call f n; fun main n; r is call f n;");
+        DUE.is("load()", Due.load(y, 3), true);
+        DUE.is("steps(2)", y.steps(2), 2);
+        DUE.is("steps(7)", y.steps(7), 7);
+        DUE.is("undo()", y.undo(), 2);
+        DUE.is("FRAMES left ahead", y.now(10), 2);
     }
 
     private static void whatIsKept() {
