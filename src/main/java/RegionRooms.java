@@ -106,8 +106,10 @@ public final class RegionRooms {
 
     private final byte[] tape = new byte[TAPE_MOST];
     private int tapeLength = 0;
-    private final ProgramReader programReader = new ProgramReader(tape);
-    private final SentenceReader sentenceReader = new SentenceReader(tape);
+    private final Tokens tokens = new Tokens(tape);
+    private final ProgramReader programReader = new ProgramReader(tokens);
+    private final SentenceReader sentenceReader = new SentenceReader(tokens);
+    private final RegionFinder finder = new RegionFinder();
     private int faultKind = 0;
     private final Whole own = new Whole();
     /** The one for run() and odds(), so that the own one stays as it is. */
@@ -143,11 +145,13 @@ public final class RegionRooms {
 
     public int program() {
         boolean good = programReader.readsAll(takeTape());
-        faultKind = programReader.faultKind;
+        faultKind = tokens.faultKind;
         if (!good) {
-            return -1 - programReader.faultPlace;
+            return -1 - tokens.faultPlace;
         }
         own.program.copyFrom(programReader.made);
+        finder.findAll(own.program);
+        own.program.regions.derive(own.program);
         own.machine.clear();
         own.sentence.clear();
         history.clear();
@@ -315,14 +319,14 @@ public final class RegionRooms {
     }
 
     public int gave() {
-        return own.machine.resultKind;
+        return own.machine.resultKind();
     }
 
     public int result() throws NoSuchElementException {
         if (own.machine.state != ENDED) {
             throw new NoSuchElementException();
         }
-        return own.machine.resultValue;
+        return own.machine.givenValue;
     }
 
     public int room(int k) {
@@ -389,9 +393,9 @@ public final class RegionRooms {
 
     public int sentence() {
         boolean good = sentenceReader.readsAll(takeTape(), own.program);
-        faultKind = sentenceReader.faultKind;
+        faultKind = tokens.faultKind;
         if (!good) {
-            return -1 - sentenceReader.faultPlace;
+            return -1 - tokens.faultPlace;
         }
         own.sentence.copyFrom(sentenceReader.made);
         return own.sentence.ones;
@@ -498,38 +502,43 @@ public final class RegionRooms {
         ranRows[RAN_CELLS] = other.cells;
         ranRows[RAN_LAID] = other.laid;
         ranRows[RAN_WHY] = other.why;
-        ranRows[RAN_GAVE] = other.resultKind;
-        ranRows[RAN_NUMBER] = other.resultKind == A_NUMBER ? other.resultValue : 0;
+        ranRows[RAN_GAVE] = other.resultKind();
+        ranRows[RAN_NUMBER] = other.resultKind() == A_NUMBER ? other.givenValue : 0;
         ranRows[RAN_DRAG] = worstDrag;
     }
 
-    /** Reads TOKENS from the tape, and keeps the first FAULT. */
-    private abstract static class Reader {
-        private final byte[] text;
-        private final int most;
+    /** The tape's text as TOKENS, taken one by one; it keeps the first FAULT that a reader tells. */
+    private static final class Tokens {
+        private static final int TOKENS_MOST = PROGRAM_MOST + 1;
+
+        private final byte[] bytes;
         private final long[] keywords = new long[KEYWORD_COUNT];
+        private final int[] kinds = new int[TOKENS_MOST];
+        private final int[] places = new int[TOKENS_MOST];
+        /** Which keyword, number or sign it is; of another WORD its letters, as one number. */
+        private final long[] contents = new long[TOKENS_MOST];
         private int length = 0;
-        private int limit = 0;
-        private int at = 0;
+        private int next = 0;
+        private int size = 0;
+        private int at = NONE;
+        /** The TOKEN that is looked at: its kind, its place, and what it is (NONE, if it is no such one). */
         int token = TOKEN_END;
         int place = 0;
-        /** What the TOKEN is: a keyword, a number, a sign (NONE if it is none), a word as a number. */
         int keyword = NONE;
         int number = NONE;
         int sign = NONE;
-        long word = 0;
+        long word = NONE;
         int faultKind = 0;
         int faultPlace = 0;
 
-        Reader(byte[] text, int most) {
-            this.text = text;
-            this.most = most;
-            int next = 0;
+        Tokens(byte[] tape) {
+            bytes = tape;
+            int told = 0;
             long letters = 0;
-            for (int i = 0; i < KEYWORDS.length() && next < KEYWORD_COUNT; i++) {
+            for (int i = 0; i < KEYWORDS.length() && told < KEYWORD_COUNT; i++) {
                 if (KEYWORDS.charAt(i) == ' ') {
-                    keywords[next] = letters;
-                    next++;
+                    keywords[told] = letters;
+                    told++;
                     letters = 0;
                 } else {
                     letters = withLetter(letters, KEYWORDS.charAt(i));
@@ -537,68 +546,65 @@ public final class RegionRooms {
             }
         }
 
-        final void open(int bytes) {
-            length = Math.min(bytes, text.length);
-            limit = Math.min(length, most);
-            at = 0;
+        void open(int howMany, int most) {
+            length = Math.min(howMany, bytes.length);
+            int limit = Math.min(length, most);
             faultKind = 0;
             faultPlace = 0;
+            size = 0;
+            next = 0;
+            for (int i = 0; i < limit && next < limit; i++) {
+                readPiece();
+            }
+            put(length > limit ? TOKEN_BAD : TOKEN_END, limit, NONE);
+            at = NONE;
             advance();
         }
 
-        final void advance() {
-            keyword = NONE;
-            number = NONE;
-            sign = NONE;
-            while (at < limit && isBlank(text[at])) {
-                at++;
-            }
-            if (at >= limit) {
-                place = limit;
-                token = length > limit ? TOKEN_BAD : TOKEN_END;
+        private void readPiece() {
+            int c = bytes[next];
+            if (isLetter(c) || isDigit(c)) {
+                readLettersAndDigits();
                 return;
             }
-            place = at;
-            if (isLetter(text[at]) || isDigit(text[at])) {
-                readLettersAndDigits();
-            } else {
-                readSign();
+            if (c != 32 && c != 10) {
+                boolean known = c == ';' || c == '<' || c == '=' || c == '>' || c == '(' || c == ')';
+                put(known ? TOKEN_SIGN : TOKEN_BAD, next, c);
             }
+            next++;
         }
 
+        /** Ahead of the limit it begins, but it may end behind it. */
         private void readLettersAndDigits() {
-            int letters = 0;
+            int from = next;
             int digits = 0;
-            word = 0;
+            long letters = 0;
             int sum = 0;
-            // Ahead of the limit it begins, but it may end behind it.
-            while (at < length && (isLetter(text[at]) || isDigit(text[at]))) {
-                if (isLetter(text[at])) {
-                    letters++;
-                    word = withLetter(word, text[at]);
-                } else {
+            for (; next < length && (isLetter(bytes[next]) || isDigit(bytes[next])); next++) {
+                if (isDigit(bytes[next])) {
                     digits++;
-                    sum = sum * 10 + (text[at] - '0');
+                    sum = sum * 10 + (bytes[next] - '0');
+                } else {
+                    letters = withLetter(letters, bytes[next]);
                 }
-                at++;
             }
-            if (digits == 0 && letters <= WORD_LETTERS) {
-                keyword = keywordOf(word);
-                token = keyword == NONE ? TOKEN_NAME : TOKEN_KEYWORD;
-            } else if (letters == 0 && digits <= NUMBER_DIGITS) {
-                number = sum;
-                token = TOKEN_NUMBER;
+            if (digits == 0 && next - from <= WORD_LETTERS) {
+                int known = keywordOf(letters);
+                put(known == NONE ? TOKEN_NAME : TOKEN_KEYWORD, from, known == NONE ? letters : known);
+            } else if (digits == next - from && digits <= NUMBER_DIGITS) {
+                put(TOKEN_NUMBER, from, sum);
             } else {
-                token = TOKEN_BAD;
+                put(TOKEN_BAD, from, NONE);
             }
         }
 
-        private void readSign() {
-            int c = text[at];
-            boolean known = c == ';' || c == '<' || c == '=' || c == '>' || c == '(' || c == ')';
-            token = known ? TOKEN_SIGN : TOKEN_BAD;
-            sign = known ? c : NONE;
-            at++;
+        private void put(int kindOfIt, int placeOfIt, long content) {
+            if (size < TOKENS_MOST) {
+                kinds[size] = kindOfIt;
+                places[size] = placeOfIt;
+                contents[size] = content;
+                size++;
+            }
         }
 
         private int keywordOf(long letters) {
@@ -615,10 +621,6 @@ public final class RegionRooms {
             return letters * 27 + (letter - 'a' + 1);
         }
 
-        private static boolean isBlank(int c) {
-            return c == 32 || c == 10;
-        }
-
         private static boolean isLetter(int c) {
             return c >= 'a' && c <= 'z';
         }
@@ -627,14 +629,28 @@ public final class RegionRooms {
             return c >= '0' && c <= '9';
         }
 
+        /** Behind the last TOKEN there is none: it is still looked at. */
+        void advance() {
+            if (at + 1 >= size) {
+                return;
+            }
+            at++;
+            token = kinds[at];
+            place = places[at];
+            keyword = token == TOKEN_KEYWORD ? (int) contents[at] : NONE;
+            number = token == TOKEN_NUMBER ? (int) contents[at] : NONE;
+            sign = token == TOKEN_SIGN ? (int) contents[at] : NONE;
+            word = token == TOKEN_NAME ? contents[at] : NONE;
+        }
+
         /** Always false, so that a reader can leave with it. */
-        final boolean failsBy(int kindOfFault) {
+        boolean failsBy(int kindOfFault) {
             faultKind = kindOfFault;
             faultPlace = place;
             return false;
         }
 
-        final boolean takesKeyword(int wanted) {
+        boolean takesKeyword(int wanted) {
             if (keyword != wanted) {
                 return failsBy(FAULT_TOKEN);
             }
@@ -642,7 +658,7 @@ public final class RegionRooms {
             return true;
         }
 
-        final boolean takesSign(int wanted) {
+        boolean takesSign(int wanted) {
             if (sign != wanted) {
                 return failsBy(FAULT_TOKEN);
             }
@@ -651,36 +667,27 @@ public final class RegionRooms {
         }
     }
 
-    private static final class ProgramReader extends Reader {
+    private static final class ProgramReader {
         final Program made = new Program();
-        private final RegionFinder finder = new RegionFinder();
+        private final Tokens text;
         private final long[] varWords = new long[VARS_MOST];
         private int vars = 0;
 
-        ProgramReader(byte[] tape) {
-            super(tape, PROGRAM_MOST);
+        ProgramReader(Tokens tokens) {
+            text = tokens;
         }
 
         boolean readsAll(int bytes) {
             made.clear();
             vars = 0;
-            open(bytes);
-            for (int i = 0; i < TAPE_MOST && token != TOKEN_END; i++) {
-                if (!readsLine()) {
+            text.open(bytes, PROGRAM_MOST);
+            for (int i = 0; i < PROGRAM_MOST && text.token != TOKEN_END; i++) {
+                boolean good = text.keyword == WORD_FUN ? readsFun() : readsIs();
+                if (!good || !text.takesSign(';')) {
                     return false;
                 }
             }
-            if (latestFunIsBare()) {
-                return failsBy(FAULT_NAME);
-            }
-            finder.findAll(made);
-            made.regions.derive(made);
-            return true;
-        }
-
-        private boolean readsLine() {
-            boolean good = keyword == WORD_FUN ? readsFun() : readsIs();
-            return good && takesSign(';');
+            return !latestFunIsBare() || text.failsBy(FAULT_NAME);
         }
 
         private boolean latestFunIsBare() {
@@ -689,52 +696,52 @@ public final class RegionRooms {
 
         private boolean readsFun() {
             if (latestFunIsBare()) {
-                return failsBy(FAULT_NAME);
+                return text.failsBy(FAULT_NAME);
             }
             if (made.funs >= FUNS_MOST) {
-                return failsBy(FAULT_LIMIT);
+                return text.failsBy(FAULT_LIMIT);
             }
-            advance();
-            if (token != TOKEN_NAME) {
-                return failsBy(FAULT_TOKEN);
+            text.advance();
+            if (text.token != TOKEN_NAME) {
+                return text.failsBy(FAULT_TOKEN);
             }
-            if (made.funOf(word) != NONE) {
-                return failsBy(FAULT_NAME);
+            if (made.funOf(text.word) != NONE) {
+                return text.failsBy(FAULT_NAME);
             }
-            made.openFun(word);
+            made.openFun(text.word);
             vars = 0;
-            advance();
+            text.advance();
             return readsParameters();
         }
 
         private boolean readsParameters() {
-            for (int i = 0; i <= PARAMETERS_MOST && token == TOKEN_NAME; i++) {
-                if (varOf(word) != NONE) {
-                    return failsBy(FAULT_NAME);
+            for (int i = 0; i <= PARAMETERS_MOST && text.token == TOKEN_NAME; i++) {
+                if (varOf(text.word) != NONE) {
+                    return text.failsBy(FAULT_NAME);
                 }
                 if (i == PARAMETERS_MOST) {
-                    return failsBy(FAULT_LIMIT);
+                    return text.failsBy(FAULT_LIMIT);
                 }
-                addVar(word);
+                addVar(text.word);
                 made.parameters[made.funs - 1]++;
-                advance();
+                text.advance();
             }
             return true;
         }
 
         private boolean readsIs() {
-            if (token != TOKEN_NAME) {
-                return failsBy(FAULT_TOKEN);
+            if (text.token != TOKEN_NAME) {
+                return text.failsBy(FAULT_TOKEN);
             }
-            if (varOf(word) != NONE) {
-                return failsBy(FAULT_NAME);
+            if (varOf(text.word) != NONE) {
+                return text.failsBy(FAULT_NAME);
             }
             if (made.funs == 0 || made.lines >= LINES_MOST) {
-                return failsBy(FAULT_LIMIT);
+                return text.failsBy(FAULT_LIMIT);
             }
-            long x = word;
-            advance();
-            if (!takesKeyword(WORD_IS) || !readsExpr()) {
+            long x = text.word;
+            text.advance();
+            if (!text.takesKeyword(WORD_IS) || !readsExpr(made.lines)) {
                 return false;
             }
             addVar(x);
@@ -742,84 +749,78 @@ public final class RegionRooms {
             return true;
         }
 
-        private boolean readsExpr() {
-            int line = made.lines;
-            if (token == TOKEN_NUMBER) {
+        private boolean readsExpr(int line) {
+            if (text.token == TOKEN_NUMBER) {
                 made.expr[line] = PLAIN_NUMBER;
-                made.operand[line * OPERANDS_MOST] = number;
-                advance();
+                made.operand[line * OPERANDS_MOST] = text.number;
+                text.advance();
                 return true;
             }
-            if (token == TOKEN_NAME) {
+            if (text.token == TOKEN_NAME) {
                 made.expr[line] = PLAIN_VAR;
-                return takesVars(0, 1);
+                return takesVars(line, 0, 1);
             }
-            made.expr[line] = keyword;
-            switch (keyword) {
+            if (text.keyword < WORD_PAIR || text.keyword > WORD_WHEN) {
+                return text.failsBy(FAULT_TOKEN);
+            }
+            made.expr[line] = text.keyword;
+            text.advance();
+            switch (made.expr[line]) {
                 case WORD_LEFT:
                 case WORD_RIGHT:
-                    advance();
-                    return takesVars(0, 1);
-                case WORD_PAIR:
-                case WORD_SUM:
-                case WORD_LESS:
-                    advance();
-                    return takesVars(0, 2);
+                    return takesVars(line, 0, 1);
                 case WORD_PICK:
-                    advance();
-                    return takesVars(0, 3);
+                    return takesVars(line, 0, 3);
                 case WORD_CALL:
-                    advance();
-                    return takesFun() && takesVars(0, made.argumentCount(line));
+                    return takesFun(line) && takesVars(line, 0, made.argumentCount(line));
                 case WORD_WHEN:
-                    advance();
                     return readsWhen(line);
                 default:
-                    return failsBy(FAULT_TOKEN);
+                    return takesVars(line, 0, 2);
             }
         }
 
         /** The condition is told first, but is kept behind the arguments. */
         private boolean readsWhen(int line) {
-            if (!takesVars(0, 1)) {
+            if (!takesVars(line, 0, 1)) {
                 return false;
             }
             int condition = made.operand[line * OPERANDS_MOST];
-            if (!takesFun()) {
+            if (!takesFun(line)) {
                 return false;
             }
             int arguments = made.argumentCount(line);
             made.operand[line * OPERANDS_MOST + arguments] = condition;
-            if (!takesVars(0, arguments) || !takesKeyword(WORD_ELSE)) {
+            if (!takesVars(line, 0, arguments) || !text.takesKeyword(WORD_ELSE)) {
                 return false;
             }
-            return takesVars(arguments + 1, 1);
+            return takesVars(line, arguments + 1, 1);
         }
 
-        private boolean takesFun() {
-            if (token != TOKEN_NAME) {
-                return failsBy(FAULT_TOKEN);
+        private boolean takesFun(int line) {
+            if (text.token != TOKEN_NAME) {
+                return text.failsBy(FAULT_TOKEN);
             }
-            int called = made.funOf(word);
+            int called = made.funOf(text.word);
             if (called == NONE) {
-                return failsBy(FAULT_NAME);
+                return text.failsBy(FAULT_NAME);
             }
-            made.callee[made.lines] = called;
-            advance();
+            made.callee[line] = called;
+            text.advance();
             return true;
         }
 
-        private boolean takesVars(int from, int howMany) {
+        private boolean takesVars(int line, int from, int howMany) {
             for (int i = from; i < from + howMany; i++) {
-                if (token != TOKEN_NAME) {
-                    return failsBy(FAULT_TOKEN);
+                if (text.token != TOKEN_NAME) {
+                    return text.failsBy(FAULT_TOKEN);
                 }
-                int v = varOf(word);
+                int v = varOf(text.word);
                 if (v == NONE) {
-                    return failsBy(FAULT_NAME);
+                    return text.failsBy(FAULT_NAME);
                 }
-                made.operand[made.lines * OPERANDS_MOST + i] = v;
-                advance();
+                made.operand[line * OPERANDS_MOST + i] = v;
+                text.advance();
             }
             return true;
         }
@@ -841,32 +842,30 @@ public final class RegionRooms {
         }
     }
 
-    private static final class SentenceReader extends Reader {
+    private static final class SentenceReader {
         final Sentence made = new Sentence();
+        private final Tokens text;
 
-        SentenceReader(byte[] tape) {
-            super(tape, SENTENCE_MOST);
+        SentenceReader(Tokens tokens) {
+            text = tokens;
         }
 
         boolean readsAll(int bytes, Program p) {
             made.clear();
-            open(bytes);
+            text.open(bytes, SENTENCE_MOST);
             if (!readsCond(p, 0)) {
                 return false;
             }
-            if (token != TOKEN_END) {
-                return failsBy(FAULT_TOKEN);
-            }
-            made.told = true;
-            return true;
+            made.told = text.token == TOKEN_END;
+            return made.told || text.failsBy(FAULT_TOKEN);
         }
 
         private boolean readsCond(Program p, int within) {
             if (!readsParts(p, within)) {
                 return false;
             }
-            for (int i = 0; i < ONES_MOST && keyword == WORD_OR; i++) {
-                advance();
+            for (int i = 0; i < ONES_MOST && text.keyword == WORD_OR; i++) {
+                text.advance();
                 if (!readsParts(p, within)) {
                     return false;
                 }
@@ -879,8 +878,8 @@ public final class RegionRooms {
             if (!readsOne(p, within)) {
                 return false;
             }
-            for (int i = 0; i < ONES_MOST && keyword == WORD_AND; i++) {
-                advance();
+            for (int i = 0; i < ONES_MOST && text.keyword == WORD_AND; i++) {
+                text.advance();
                 if (!readsOne(p, within)) {
                     return false;
                 }
@@ -889,19 +888,20 @@ public final class RegionRooms {
             return true;
         }
 
+        /** How many ONES this one is within is carried along; it refuses to go deeper than told. */
         private boolean readsOne(Program p, int within) {
-            boolean bracket = sign == '(';
-            if (!bracket && (keyword < WORD_NOT || keyword > WORD_NUMBER)) {
-                return failsBy(FAULT_TOKEN);
+            boolean bracket = text.sign == '(';
+            int first = text.keyword;
+            if (!bracket && (first < WORD_NOT || first > WORD_NUMBER)) {
+                return text.failsBy(FAULT_TOKEN);
             }
             if (made.ones >= ONES_MOST || within >= ONES_WITHIN) {
-                return failsBy(FAULT_LIMIT);
+                return text.failsBy(FAULT_LIMIT);
             }
             made.ones++;
-            int first = keyword;
-            advance();
+            text.advance();
             if (bracket) {
-                return readsCond(p, within + 1) && takesSign(')');
+                return readsCond(p, within + 1) && text.takesSign(')');
             }
             switch (first) {
                 case WORD_NOT:
@@ -919,28 +919,28 @@ public final class RegionRooms {
         }
 
         private boolean readsFunOf(Program p, int first) {
-            if (token != TOKEN_NAME) {
-                return failsBy(FAULT_TOKEN);
+            if (text.token != TOKEN_NAME) {
+                return text.failsBy(FAULT_TOKEN);
             }
-            int f = p.funOf(word);
+            int f = p.funOf(text.word);
             if (f == NONE) {
-                return failsBy(FAULT_NAME);
+                return text.failsBy(FAULT_NAME);
             }
-            advance();
+            text.advance();
             return made.put(first, NONE, f);
         }
 
         private boolean readsMeasure(int first) {
-            int how = sign;
+            int how = text.sign;
             if (how != '<' && how != '=' && how != '>') {
-                return failsBy(FAULT_TOKEN);
+                return text.failsBy(FAULT_TOKEN);
             }
-            advance();
-            if (token != TOKEN_NUMBER) {
-                return failsBy(FAULT_TOKEN);
+            text.advance();
+            if (text.token != TOKEN_NUMBER) {
+                return text.failsBy(FAULT_TOKEN);
             }
-            int against = number;
-            advance();
+            int against = text.number;
+            text.advance();
             return made.put(first, how, against);
         }
     }
@@ -1088,6 +1088,7 @@ public final class RegionRooms {
         int size = 0;
         int finite = 0;
         final int[] points = new int[FUNS_MOST * VARS_MOST];
+        final int[] varReach = new int[FUNS_MOST * VARS_MOST];
         final int[] left = new int[REGIONS_MOST];
         final int[] right = new int[REGIONS_MOST];
         final int[] reach = new int[REGIONS_MOST];
@@ -1105,6 +1106,7 @@ public final class RegionRooms {
             size = from.size;
             finite = from.finite;
             System.arraycopy(from.points, 0, points, 0, points.length);
+            System.arraycopy(from.varReach, 0, varReach, 0, varReach.length);
             System.arraycopy(from.left, 0, left, 0, left.length);
             System.arraycopy(from.right, 0, right, 0, right.length);
             System.arraycopy(from.reach, 0, reach, 0, reach.length);
@@ -1139,7 +1141,7 @@ public final class RegionRooms {
         }
 
         int reachOfVar(int f, int v) {
-            return reachOf(pointedBy(f, v));
+            return varReach[f * VARS_MOST + v];
         }
 
         /** From what points to what, all the rest. */
@@ -1175,11 +1177,13 @@ public final class RegionRooms {
 
         private void tellOwner(Program p, int f) {
             int all = 0;
-            int outside = reachOfVar(f, p.resultOf(f));
+            int outside = 0;
             for (int v = 0; v < p.varCount(f); v++) {
-                all |= reachOfVar(f, v);
-                if (v < p.parameters[f]) {
-                    outside |= reachOfVar(f, v);
+                int bits = reachOf(pointedBy(f, v));
+                varReach[f * VARS_MOST + v] = bits;
+                all |= bits;
+                if (v < p.parameters[f] || v == p.resultOf(f)) {
+                    outside |= bits;
                 }
             }
             outer[f] = outside;
@@ -1417,8 +1421,9 @@ public final class RegionRooms {
         int stepCount = 0;
         int laid = 0;
         int leftAhead = 0;
-        int resultKind = NO_VALUE;
-        int resultValue = 0;
+        /** The VALUE that an x had latest: behind the end it is the RESULT. */
+        int givenKind = NO_VALUE;
+        int givenValue = 0;
         /** Whether a VAR, or a FRAME with all of them, was lost in the latest STEP. */
         boolean lost = false;
         final int[] frameFun = new int[FRAME_ROWS];
@@ -1445,8 +1450,9 @@ public final class RegionRooms {
             stepCount = 0;
             laid = 0;
             leftAhead = 0;
-            resultKind = NO_VALUE;
-            resultValue = 0;
+            givenKind = NO_VALUE;
+            givenValue = 0;
+            lost = false;
             Arrays.fill(cellRoom, NONE);
         }
 
@@ -1460,8 +1466,9 @@ public final class RegionRooms {
             stepCount = from.stepCount;
             laid = from.laid;
             leftAhead = from.leftAhead;
-            resultKind = from.resultKind;
-            resultValue = from.resultValue;
+            givenKind = from.givenKind;
+            givenValue = from.givenValue;
+            lost = from.lost;
             System.arraycopy(from.frameFun, 0, frameFun, 0, frameFun.length);
             System.arraycopy(from.frameLine, 0, frameLine, 0, frameLine.length);
             System.arraycopy(from.varKind, 0, varKind, 0, varKind.length);
@@ -1494,6 +1501,10 @@ public final class RegionRooms {
 
         boolean hasCell(int c) {
             return c >= 0 && c < CELLS_MOST && cellRoom[c] != NONE;
+        }
+
+        int resultKind() {
+            return state == ENDED ? givenKind : NO_VALUE;
         }
 
         int latestFun() {
@@ -1560,6 +1571,7 @@ public final class RegionRooms {
                 callBy(p, f, line);
             } else {
                 work(p, f, line);
+                settle(p);
             }
         }
 
@@ -1577,7 +1589,7 @@ public final class RegionRooms {
 
         private int stopReason(Program p, int f, int line) {
             int expr = p.expr[line];
-            if ((expr == WORD_LEFT || expr == WORD_RIGHT) && !isPair(p, line, 0)) {
+            if ((expr == WORD_LEFT || expr == WORD_RIGHT) && kindAt(p, line, 0) != A_PAIR) {
                 return STOP_SIDE;
             }
             if (hasPairForNumber(p, line)) {
@@ -1596,11 +1608,11 @@ public final class RegionRooms {
             switch (p.expr[line]) {
                 case WORD_SUM:
                 case WORD_LESS:
-                    return isPair(p, line, 0) || isPair(p, line, 1);
+                    return kindAt(p, line, 0) == A_PAIR || kindAt(p, line, 1) == A_PAIR;
                 case WORD_PICK:
-                    return isPair(p, line, 0);
+                    return kindAt(p, line, 0) == A_PAIR;
                 case WORD_WHEN:
-                    return isPair(p, line, p.conditionSlot(line));
+                    return kindAt(p, line, p.conditionSlot(line)) == A_PAIR;
                 default:
                     return false;
             }
@@ -1611,10 +1623,6 @@ public final class RegionRooms {
                 return valueAt(p, line, p.conditionSlot(line)) != 0;
             }
             return p.expr[line] == WORD_CALL;
-        }
-
-        private boolean isPair(Program p, int line, int slot) {
-            return kindAt(p, line, slot) == A_PAIR;
         }
 
         private int kindAt(Program p, int line, int slot) {
@@ -1653,45 +1661,51 @@ public final class RegionRooms {
             System.arraycopy(varValue, from * VARS_MOST, varValue, to * VARS_MOST, VARS_MOST);
         }
 
+        /** Tells which VALUE x will have. */
         private void work(Program p, int f, int line) {
             switch (p.expr[line]) {
                 case PLAIN_NUMBER:
-                    settle(p, A_NUMBER, p.operandAt(line, 0));
+                    give(A_NUMBER, p.operandAt(line, 0));
                     break;
                 case WORD_PAIR:
-                    settle(p, A_PAIR, layCell(p, f, line));
+                    give(A_PAIR, layCell(p, f, line));
                     break;
                 case WORD_LEFT:
-                    settleAsSide(p, valueAt(p, line, 0), 0);
+                    giveSide(valueAt(p, line, 0), 0);
                     break;
                 case WORD_RIGHT:
-                    settleAsSide(p, valueAt(p, line, 0), 1);
+                    giveSide(valueAt(p, line, 0), 1);
                     break;
                 case WORD_SUM:
-                    settle(p, A_NUMBER, valueAt(p, line, 0) + valueAt(p, line, 1));
+                    give(A_NUMBER, valueAt(p, line, 0) + valueAt(p, line, 1));
                     break;
                 case WORD_LESS:
-                    settle(p, A_NUMBER, valueAt(p, line, 0) < valueAt(p, line, 1) ? 1 : 0);
+                    give(A_NUMBER, valueAt(p, line, 0) < valueAt(p, line, 1) ? 1 : 0);
                     break;
                 case WORD_PICK:
-                    settleAsVar(p, line, valueAt(p, line, 0) != 0 ? 1 : 2);
+                    giveVar(p, line, valueAt(p, line, 0) != 0 ? 1 : 2);
                     break;
                 case WORD_WHEN:
-                    settleAsVar(p, line, p.elseSlot(line));
+                    giveVar(p, line, p.elseSlot(line));
                     break;
                 default:
-                    settleAsVar(p, line, 0);
+                    giveVar(p, line, 0);
                     break;
             }
         }
 
-        private void settleAsVar(Program p, int line, int slot) {
-            settle(p, kindAt(p, line, slot), valueAt(p, line, slot));
+        private void give(int kindOfIt, int valueOfIt) {
+            givenKind = kindOfIt;
+            givenValue = valueOfIt;
         }
 
-        private void settleAsSide(Program p, int c, int side) {
+        private void giveVar(Program p, int line, int slot) {
+            give(kindAt(p, line, slot), valueAt(p, line, slot));
+        }
+
+        private void giveSide(int c, int side) {
             boolean there = hasCell(c);
-            settle(p, there ? sideKind[2 * c + side] : A_NUMBER, there ? sideValue[2 * c + side] : 0);
+            give(there ? sideKind[2 * c + side] : A_NUMBER, there ? sideValue[2 * c + side] : 0);
         }
 
         private int layCell(Program p, int f, int line) {
@@ -1730,11 +1744,11 @@ public final class RegionRooms {
         }
 
         /** Gives x of the LINE its VALUE; as long as that was a FUN's last LINE, it is given further. */
-        private void settle(Program p, int kindOfIt, int valueOfIt) {
+        private void settle(Program p) {
             for (int i = 0; i < FRAMES_MOST && frames > 0; i++) {
                 int k = frames - 1;
                 int f = frameFun[k];
-                setVar(k, p.parameters[f] + frameLine[k], kindOfIt, valueOfIt);
+                setVar(k, p.parameters[f] + frameLine[k], givenKind, givenValue);
                 freeRooms(p, k, p.regions.ends[p.firstLine[f] + frameLine[k]]);
                 frameLine[k]++;
                 if (frameLine[k] < p.lineCount[f]) {
@@ -1744,8 +1758,6 @@ public final class RegionRooms {
                 lost = true;
             }
             state = ENDED;
-            resultKind = kindOfIt;
-            resultValue = valueOfIt;
         }
 
         private void freeRooms(Program p, int k, int regions) {
@@ -1800,7 +1812,7 @@ public final class RegionRooms {
                     come(m, m.varKind[k * VARS_MOST + v], m.varValue[k * VARS_MOST + v]);
                 }
             }
-            come(m, m.resultKind, m.resultValue);
+            come(m, m.resultKind(), m.givenValue);
             for (int i = 0; i < size; i++) {
                 int c = found[i];
                 come(m, m.sideKind[2 * c], m.sideValue[2 * c]);
