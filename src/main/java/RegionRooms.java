@@ -149,13 +149,14 @@ public final class RegionRooms {
         if (!good) {
             return -1 - tokens.faultPlace;
         }
-        own.program.copyFrom(programReader.made);
-        finder.findAll(own.program);
-        own.program.regions.derive(own.program);
+        Program made = programReader.made;
+        finder.findAll(made);
+        made.regions.derive(made);
+        own.program.copyFrom(made);
         own.machine.clear();
         own.sentence.clear();
         history.clear();
-        return own.program.funs + own.program.lines;
+        return made.funs + made.lines;
     }
 
     public int fault() {

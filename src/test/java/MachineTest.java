@@ -443,6 +443,8 @@ public final class MachineTest {
         DUE.is("steps(9)", x.steps(9), 2);
         DUE.is("result()", x.result(), 7);
         DUE.is("one LEFT", x.now(10), 1);
+        DUE.is("load()", Due.load(x, 3, 5), true);
+        DUE.is("none LEFT since then", x.now(10), 0);
     }
 
     private static void wrongOnes() {

@@ -194,6 +194,8 @@ public final class SentenceTest {
         says(x, "not number=0 or number=0", 0, 1, 2, 3);
         says(x, "not (number=0 or number=3)", 1, 2);
         says(x, "not not number=3", 3);
+        says(x, "live or ".repeat(19) + "number=3", 3);
+        says(x, "number=3" + " and not live".repeat(9), 3);
         says(x, "number<1 or number>2 and not finite or outer and not number=3", 0, 2, 3);
     }
 

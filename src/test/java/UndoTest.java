@@ -113,6 +113,13 @@ public final class UndoTest {
         DUE.is("ROOM 1 is that of b", x.room(1), 1);
         DUE.is("CELL 1 is in the latter", x.cell(1, 0), 1);
         DUE.is("and CELL 0 in the former", x.cell(0, 0), 0);
+        RegionRooms z = DUE.with("fun main n; a is pair n n; b is pair n n; h is left a; c is pair b b; d is left c;");
+        DUE.is("load()", Due.load(z, 3), true);
+        DUE.is("steps(2)", z.steps(2), 2);
+        DUE.is("steps(2)", z.steps(2), 2);
+        DUE.is("PAIRS in CELL 0", 10 * z.cell(0, 1) + z.cell(0, 2), 22);
+        DUE.is("undo()", z.undo(), 2);
+        DUE.is("numbers in CELL 0", 10 * z.cell(0, 1) + z.cell(0, 2), 11);
         RegionRooms y = DUE.with("fun f n; r is call f n; fun main n; r is call f n;");
         DUE.is("load()", Due.load(y, 3), true);
         DUE.is("steps(2)", y.steps(2), 2);
