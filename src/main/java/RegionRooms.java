@@ -1637,8 +1637,9 @@ public final class RegionRooms {
         private void openFrame(int k, int f) {
             frameFun[k] = f;
             frameLine[k] = 0;
-            Arrays.fill(varKind, k * VARS_MOST, (k + 1) * VARS_MOST, NO_VALUE);
-            Arrays.fill(varValue, k * VARS_MOST, (k + 1) * VARS_MOST, 0);
+            for (int v = 0; v < VARS_MOST; v++) {
+                setVar(k, v, NO_VALUE, 0);
+            }
         }
 
         private void callBy(Program p, int f, int line) {

@@ -15,6 +15,7 @@ public final class FaultTest {
         limits();
         lengths();
         programStays();
+        oldVarsAreForgotten();
         DUE.end();
     }
 
@@ -239,5 +240,17 @@ public final class FaultTest {
         DUE.is("no SENTENCE then", x.said(-1), -1);
         DUE.is("no undo then", x.undo(), -1);
         DUE.noSuch("fun(0, 0) then", () -> x.fun(0, 0));
+    }
+
+    /** A LINE ahead of any FUN tells no VAR twice, whatever an older text told. */
+    private static void oldVarsAreForgotten() {
+        RegionRooms x = DUE.with("fun f a; b is a;");
+        DUE.is("program() that begins with an old VAR", Due.program(x, "a is 1;"), -1);
+        DUE.is("its fault()", x.fault(), 4);
+        DUE.is("program() that tells old VARS anew", Due.program(x, "fun g b; a is b;"), 2);
+        DUE.is("a FAULT behind two VARS", Due.program(x, "fun h b; a is b; a is 1"), -18);
+        DUE.is("its fault() then", x.fault(), 3);
+        DUE.is("program() that begins with the second one", Due.program(x, " a is 1;"), -2);
+        DUE.is("its fault() again", x.fault(), 4);
     }
 }

@@ -23,6 +23,7 @@ public final class ModelTest {
     private int wrong = 0;
     private static final int[] STATES = new int[4];
     private static final int[] WHYS = new int[6];
+    private static final int[] RUN_WHYS = new int[6];
     private static final int[] FAULTS = new int[5];
     private static long asked = 0;
 
@@ -46,7 +47,8 @@ public final class ModelTest {
             }
         }
         System.out.println("ModelTest: " + asked + " answers; machines idle, running, ended, stopped: "
-            + java.util.Arrays.toString(STATES) + ", stopped by " + java.util.Arrays.toString(WHYS) + ", faults "
+            + java.util.Arrays.toString(STATES) + ", stopped by " + java.util.Arrays.toString(WHYS) + ", runs "
+            + java.util.Arrays.toString(RUN_WHYS) + ", faults "
             + java.util.Arrays.toString(FAULTS) + "; runs that differ: " + bad);
         if (bad > 0) {
             System.exit(1);
@@ -81,9 +83,12 @@ public final class ModelTest {
         same(name + java.util.Arrays.toString(args), guarded(ofReal, a, b, c), guarded(ofModel, a, b, c));
     }
 
-    /** An argument from -1 to a little above most, now and then a wild one. */
+    /** An argument from -1 to a little above most, now and then a higher or a wild one. */
     private int arg(int most) {
-        return chance(4) ? WILD[random.nextInt(WILD.length)] : random.nextInt(most + 3) - 1;
+        if (chance(4)) {
+            return WILD[random.nextInt(WILD.length)];
+        }
+        return random.nextInt((chance(8) ? 28 : most) + 3) - 1;
     }
 
     private void all() {
@@ -159,12 +164,11 @@ public final class ModelTest {
             both("load", (a, b, c) -> real.load() ? 1 : 0, (a, b, c) -> model.load() ? 1 : 0);
         } else if (pick < 60) {
             int n = chance(90) ? 1 + random.nextInt(chance(50) ? 6 : 40) : arg(501);
-            both("steps", (a, b, c) -> real.steps(a), (a, b, c) -> model.steps(a), chance(10) ? 500 : n);
-            STATES[real.now(0)]++;
-            WHYS[real.now(1)]++;
+            walk(chance(10) ? 500 : n, chance(4) ? 11 : 1);
         } else if (pick < 68) {
             numbers();
             both("run", (a, b, c) -> real.run(), (a, b, c) -> model.run());
+            RUN_WHYS[Math.max(0, real.ran(4))]++;
         } else if (pick < 71) {
             both("odds", (a, b, c) -> real.odds(a, b), (a, b, c) -> model.odds(a, b), arg(4), random.nextInt());
         } else if (pick < 78) {
@@ -176,6 +180,17 @@ public final class ModelTest {
         } else {
             both("restore", (a, b, c) -> real.restore(a) ? 1 : 0, (a, b, c) -> model.restore(a) ? 1 : 0, arg(1));
         }
+    }
+
+    /** Eleven times 500 STEPS are more than there are. */
+    private void walk(int n, int times) {
+        boolean runs = true;
+        for (int i = 0; i < times && runs; i++) {
+            both("steps", (a, b, c) -> real.steps(a), (a, b, c) -> model.steps(a), times > 1 ? 500 : n);
+            runs = real.now(0) == 1;
+        }
+        STATES[real.now(0)]++;
+        WHYS[real.now(1)]++;
     }
 
     private void lookAtAll() {

@@ -17,6 +17,8 @@ public final class RegionTest {
         calls();
         leaving();
         mostRegions();
+        oneWithItsSide();
+        deepAheadOfTheNext();
         newProgramForgets();
         wrongOnes();
         DUE.end();
@@ -263,6 +265,45 @@ public final class RegionTest {
         }
         DUE.is("its REGIONS", x.count(2), 24);
         DUE.is("its last one", x.points(0, 24), 23);
+    }
+
+    /** A chain of 23 REGIONS, of which the last two must be the same: so all must, one below another. */
+    private static void oneWithItsSide() {
+        StringBuilder lefts = new StringBuilder("fun main a;");
+        StringBuilder rights = new StringBuilder("fun main a;");
+        for (int i = 1; i <= 23; i++) {
+            lefts.append(name(i)).append(" is pair ").append(name(i - 1)).append(" a;");
+            rights.append(name(i)).append(" is pair a ").append(name(i - 1)).append(';');
+        }
+        String pick = "zz is pick a " + name(23) + " " + name(22) + ";";
+        for (String text : new String[] {lefts + pick, rights + pick}) {
+            RegionRooms x = DUE.with(text);
+            DUE.is("REGIONS of " + text, x.count(2), 1);
+            region(x, 0, 0, 0, 0, 1, 0, 0, 0);
+            for (int v = 0; v <= 24; v++) {
+                DUE.is("points(0, " + v + ") of " + text, x.points(0, v), 0);
+            }
+        }
+    }
+
+    /** By its LEFT, and all that is there, then by its RIGHT, though a VAR ahead of those points to that. */
+    private static void deepAheadOfTheNext() {
+        StringBuilder lefts = new StringBuilder("fun main a; qq is right a; yy is left qq;");
+        for (int i = 1; i <= 22; i++) {
+            lefts.append(name(i)).append(" is left ").append(name(i - 1)).append(';');
+        }
+        RegionRooms x = DUE.with(lefts.toString());
+        DUE.is("REGIONS", x.count(2), 23);
+        DUE.is("the RIGHT one comes last", x.points(0, 1), 22);
+        DUE.is("the deepest", x.points(0, 23), 21);
+        StringBuilder rights = new StringBuilder("fun main pp; qq is right pp; yy is left qq; a is left pp;");
+        for (int i = 1; i <= 21; i++) {
+            rights.append(name(i)).append(" is right ").append(name(i - 1)).append(';');
+        }
+        RegionRooms z = DUE.with(rights.toString());
+        DUE.is("REGIONS by RIGHT sides", z.count(2), 23);
+        DUE.is("the first one's RIGHT comes last", z.points(0, 1), 22);
+        DUE.is("the deepest by RIGHT sides", z.points(0, 23), 21);
     }
 
     private static void newProgramForgets() {

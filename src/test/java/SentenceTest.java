@@ -116,6 +116,9 @@ public final class SentenceTest {
     private static void limits() {
         good(chain(20), 20);
         bad(chain(21), 4, chain(20).length() + 4);
+        String ands = chain(20).replace("or", "and");
+        good(ands, 20);
+        bad(ands + " and live", 4, ands.length() + 5);
         bad(chain(20) + " or ;", 1, chain(20).length() + 4);
         bad(chain(20) + " or (", 4, chain(20).length() + 4);
         bad(chain(20) + " or not", 4, chain(20).length() + 4);

@@ -74,10 +74,12 @@ final class Texts {
             name = FUNS[random.nextInt(FUNS.length)];
         }
         int parameters = random.nextInt(beyond && chance(10) ? 5 : 4);
-        boolean loop = parameters >= 2 && size >= 5 && chance(60);
+        boolean endless = parameters >= 1 && size >= 2 && chance(5);
+        boolean loop = !endless && parameters >= 2 && size >= 5 && chance(60);
         put("fun", name);
         for (int i = 0; i < parameters; i++) {
-            add(fresh(), loop && i < 2 ? 'n' : "npu".charAt(random.nextInt(3)));
+            boolean counts = loop && i < 2 || endless && i == 0;
+            add(fresh(), counts ? 'n' : "npu".charAt(random.nextInt(3)));
             put(vars.get(i));
         }
         put(";");
@@ -85,6 +87,8 @@ final class Texts {
         sizes.add(parameters);
         if (loop) {
             loop(name, parameters, size);
+        } else if (endless) {
+            endless(name, parameters, size);
         } else {
             for (int i = 0; i < size; i++) {
                 line();
@@ -120,6 +124,33 @@ final class Texts {
         for (int i = 0; i < behind; i++) {
             line();
         }
+    }
+
+    /** LINES that never stop by what they are given, then itself: till there are too many CELLS, FRAMES or STEPS. */
+    private void endless(String name, int parameters, int size) {
+        for (int i = 0; i < size - 1; i++) {
+            String x = fresh();
+            put(x, "is");
+            if (chance(50)) {
+                put("pair", any('u'), any('u'));
+                add(x, 'p');
+            } else if (chance(50)) {
+                put("pick", any('n'), any('u'), any('u'));
+                add(x, 'u');
+            } else {
+                put(chance(50) ? "7" : any('n'));
+                add(x, 'n');
+            }
+            put(";");
+        }
+        String x = fresh();
+        put(x, "is", "call", name, vars.get(0));
+        for (int i = 1; i < parameters; i++) {
+            put(chance(60) ? any('p') : vars.get(i));
+        }
+        put(";");
+        add(x, 'u');
+        lines += size;
     }
 
     private String fresh() {
