@@ -106,9 +106,8 @@ public final class RegionRooms {
 
     private final byte[] tape = new byte[TAPE_MOST];
     private int tapeLength = 0;
-    private final Tokens tokens = new Tokens(tape);
-    private final ProgramReader programReader = new ProgramReader(tokens);
-    private final SentenceReader sentenceReader = new SentenceReader(tokens);
+    private final ProgramReader programReader = new ProgramReader();
+    private final SentenceReader sentenceReader = new SentenceReader();
     private final RegionFinder finder = new RegionFinder();
     private int faultKind = 0;
     private final Whole own = new Whole();
@@ -144,10 +143,10 @@ public final class RegionRooms {
     }
 
     public int program() {
-        boolean good = programReader.readsAll(takeTape());
-        faultKind = tokens.faultKind;
+        boolean good = programReader.readsAll(tape, takeTape());
+        faultKind = programReader.text.faultKind;
         if (!good) {
-            return -1 - tokens.faultPlace;
+            return -1 - programReader.text.faultPlace;
         }
         Program made = programReader.made;
         finder.findAll(made);
@@ -393,10 +392,10 @@ public final class RegionRooms {
     }
 
     public int sentence() {
-        boolean good = sentenceReader.readsAll(takeTape(), own.program);
-        faultKind = tokens.faultKind;
+        boolean good = sentenceReader.readsAll(tape, takeTape(), own.program);
+        faultKind = sentenceReader.text.faultKind;
         if (!good) {
-            return -1 - tokens.faultPlace;
+            return -1 - sentenceReader.text.faultPlace;
         }
         own.sentence.copyFrom(sentenceReader.made);
         return own.sentence.ones;
@@ -508,16 +507,14 @@ public final class RegionRooms {
         ranRows[RAN_DRAG] = worstDrag;
     }
 
-    /** The tape's text as TOKENS, taken one by one; it keeps the first FAULT that a reader tells. */
+    /** A text as TOKENS, taken one by one; it keeps the first FAULT that a reader tells. */
     private static final class Tokens {
-        private static final int TOKENS_MOST = PROGRAM_MOST + 1;
-
-        private final byte[] bytes;
+        private final int bytesMost;
         private final long[] keywords = new long[KEYWORD_COUNT];
-        private final int[] kinds = new int[TOKENS_MOST];
-        private final int[] places = new int[TOKENS_MOST];
+        private final int[] kinds;
+        private final int[] places;
         /** Which keyword, number or sign it is; of another WORD its letters, as one number. */
-        private final long[] contents = new long[TOKENS_MOST];
+        private final long[] contents;
         private int length = 0;
         private int next = 0;
         private int size = 0;
@@ -532,8 +529,12 @@ public final class RegionRooms {
         int faultKind = 0;
         int faultPlace = 0;
 
-        Tokens(byte[] tape) {
-            bytes = tape;
+        /** A TOKEN has a byte at least, and there is one for the end. */
+        Tokens(int most) {
+            bytesMost = Math.max(most, 0);
+            kinds = new int[bytesMost + 1];
+            places = new int[bytesMost + 1];
+            contents = new long[bytesMost + 1];
             int told = 0;
             long letters = 0;
             for (int i = 0; i < KEYWORDS.length() && told < KEYWORD_COUNT; i++) {
@@ -547,25 +548,25 @@ public final class RegionRooms {
             }
         }
 
-        void open(int howMany, int most) {
+        void open(byte[] bytes, int howMany) {
             length = Math.min(howMany, bytes.length);
-            int limit = Math.min(length, most);
+            int limit = Math.min(length, bytesMost);
             faultKind = 0;
             faultPlace = 0;
             size = 0;
             next = 0;
             for (int i = 0; i < limit && next < limit; i++) {
-                readPiece();
+                readPiece(bytes);
             }
             put(length > limit ? TOKEN_BAD : TOKEN_END, limit, NONE);
             at = NONE;
             advance();
         }
 
-        private void readPiece() {
+        private void readPiece(byte[] bytes) {
             int c = bytes[next];
             if (isLetter(c) || isDigit(c)) {
-                readLettersAndDigits();
+                readLettersAndDigits(bytes);
                 return;
             }
             if (c != 32 && c != 10) {
@@ -576,7 +577,7 @@ public final class RegionRooms {
         }
 
         /** Ahead of the limit it begins, but it may end behind it. */
-        private void readLettersAndDigits() {
+        private void readLettersAndDigits(byte[] bytes) {
             int from = next;
             int digits = 0;
             long letters = 0;
@@ -600,7 +601,7 @@ public final class RegionRooms {
         }
 
         private void put(int kindOfIt, int placeOfIt, long content) {
-            if (size < TOKENS_MOST) {
+            if (size <= bytesMost) {
                 kinds[size] = kindOfIt;
                 places[size] = placeOfIt;
                 contents[size] = content;
@@ -670,18 +671,14 @@ public final class RegionRooms {
 
     private static final class ProgramReader {
         final Program made = new Program();
-        private final Tokens text;
+        final Tokens text = new Tokens(PROGRAM_MOST);
         private final long[] varWords = new long[VARS_MOST];
         private int vars = 0;
 
-        ProgramReader(Tokens tokens) {
-            text = tokens;
-        }
-
-        boolean readsAll(int bytes) {
+        boolean readsAll(byte[] tape, int bytes) {
             made.clear();
             vars = 0;
-            text.open(bytes, PROGRAM_MOST);
+            text.open(tape, bytes);
             for (int i = 0; i < PROGRAM_MOST && text.token != TOKEN_END; i++) {
                 boolean good = text.keyword == WORD_FUN ? readsFun() : readsIs();
                 if (!good || !text.takesSign(';')) {
@@ -845,15 +842,11 @@ public final class RegionRooms {
 
     private static final class SentenceReader {
         final Sentence made = new Sentence();
-        private final Tokens text;
+        final Tokens text = new Tokens(SENTENCE_MOST);
 
-        SentenceReader(Tokens tokens) {
-            text = tokens;
-        }
-
-        boolean readsAll(int bytes, Program p) {
+        boolean readsAll(byte[] tape, int bytes, Program p) {
             made.clear();
-            text.open(bytes, SENTENCE_MOST);
+            text.open(tape, bytes);
             if (!readsCond(p, 0)) {
                 return false;
             }
