@@ -197,6 +197,10 @@ public final class FaultTest {
     }
 
     private static void lengths() {
+        for (int size : new int[] {899, 900, 901, 940}) {
+            // as many TOKENS as bytes
+            bad(";".repeat(size), 1, 0);
+        }
         String small = "fun f; a is 1;";
         good(padded(small, 900), 2);
         bad(padded(small, 901), 1, 900);

@@ -16,6 +16,7 @@ public final class MachineTest {
         outerStays();
         framesAreNew();
         allFramesAtOnce();
+        manyRooms();
         firstVarIsFreed();
         stopOne();
         stopTwo();
@@ -298,6 +299,36 @@ public final class MachineTest {
         DUE.is("steps(1)", x.steps(1), 1);
         now(x, "all are away", 2, 0, 0, -1, -1, 0, 0, 12, 72, 12, 0);
         DUE.is("result()", x.result(), 12);
+    }
+
+    /** Twelve FRAMES with sixteen ROOMS each, which go away FRAME by FRAME. */
+    private static void manyRooms() {
+        StringBuilder text = new StringBuilder("fun f n; pa is pair n n;");
+        for (char c = 'b'; c <= 'p'; c++) {
+            text.append('p').append(c).append(" is pair n p").append((char) (c - 1)).append(';');
+        }
+        text.append("one is 1; k is sum n one; lim is 12; c is less k lim; r is when c f k else n; z is left pp;");
+        RegionRooms x = DUE.with(text + "fun main; z is 0; r is call f z;");
+        DUE.is("load()", x.load(), true);
+        DUE.is("steps(254)", x.steps(254), 254);
+        now(x, "at the deepest", 1, 0, 12, 0, 21, 192, 192, 192, 254, 192, 1);
+        for (int k = 0; k < 192; k++) {
+            DUE.is("room(" + k + ")", x.room(k), k % 16);
+            DUE.is("roomful(" + k + ")", x.roomful(k), 1);
+            DUE.is("cell(" + k + ", 0)", x.cell(k, 0), k % 16);
+        }
+        for (int left = 11; left >= 1; left--) {
+            DUE.is("steps(1)", x.steps(1), 1);
+            DUE.is("FRAMES", x.now(2), left);
+            DUE.is("CELLS", x.now(5), 16 * left);
+            DUE.is("ROOMS", x.now(6), 16 * left);
+            DUE.is("the latest ROOM", x.room(16 * left - 1), 15);
+            DUE.is("none behind it", x.room(16 * left), -1);
+            DUE.is("the last CELL", x.in(16 * left - 1, 0), left - 1);
+        }
+        DUE.is("steps(500)", x.steps(500), 1);
+        now(x, "at the end", 2, 0, 0, -1, -1, 0, 0, 192, 266, 192, 1);
+        DUE.is("result()", x.result(), 0);
     }
 
     private static void firstVarIsFreed() {

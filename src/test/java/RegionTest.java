@@ -323,6 +323,9 @@ public final class RegionTest {
             DUE.is("steps(1)", x.steps(1), 1);
         }
         DUE.is("ENDED", x.now(0), 2);
+        RegionRooms y = DUE.with("fun f a b c; x is a; fun main n m; o is when m f n n n else n;");
+        DUE.is("a PROGRAM with fewer VARS in its second LINE", Due.program(y, "fun main n; p is pair n n; q is pick n n n; z is 1;"), 4);
+        span(y, 0, 0, 0, 0);
     }
 
     private static void wrongOnes() {

@@ -134,6 +134,11 @@ public final class SentenceTest {
     }
 
     private static void lengths() {
+        for (int size : new int[] {199, 200, 201, 940}) {
+            // as many TOKENS as bytes
+            bad("(".repeat(size), 4, 8);
+            bad(")".repeat(size), 1, 0);
+        }
         RegionRooms cut = DUE.with(PROGRAM);
         Due.feed(cut, "finites");
         DUE.is("end(6)", cut.end(6), true);
